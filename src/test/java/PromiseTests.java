@@ -162,6 +162,7 @@ public final class PromiseTests {
         due("5: height", ARGUMENT, () -> labels.resize(0, 1, 0));
         due("5: stands yet", 1, () -> labels.point(0, 5));
         due("5: all open", 4, () -> labels.resize(0, 20, 9));
+        due("5: saved", 3, () -> labels.count(8));
         due("5: dropped", -1, () -> labels.point(0, 5));
         due("5: width", 20, () -> labels.point(0, 2));
         due("5: height", 9, () -> labels.point(0, 3));
