@@ -1,9 +1,5 @@
 /** Hand-made cases for each promise of the document, by its number. */
-public final class PromiseTests {
-    private static final String ARGUMENT = "throws.IllegalArgumentException";
-    private static final String STATE = "throws.IllegalStateException";
-    private static final String INDEX = "throws.IndexOutOfBoundsException";
-
+public final class PromiseTests extends Cases {
     private static final Check CHECK = new Check("PromiseTests");
 
     public static void main(String[] args) {
@@ -41,34 +37,6 @@ public final class PromiseTests {
 
     private static void due(String call, Object want, Check.Call code) {
         CHECK.due(call, want, code);
-    }
-
-    private static CornerLabels map(int[]... points) {
-        CornerLabels labels = new CornerLabels();
-        for (int[] p : points) {
-            labels.add(p[0], p[1], p[2], p[3], p[4]);
-        }
-        return labels;
-    }
-
-    private static int[] p(int x, int y, int width, int height, int weight) {
-        return new int[] {x, y, width, height, weight};
-    }
-
-    private static void type(CornerLabels labels, String text) {
-        labels.clearBuffer();
-        for (int i = 0; i < text.length(); i++) {
-            labels.append(text.charAt(i));
-        }
-    }
-
-    /** Eight points in the left upper quarter that do not disturb each other. */
-    private static CornerLabels eight() {
-        CornerLabels labels = new CornerLabels();
-        for (int i = 0; i < 8; i++) {
-            labels.add(5 + 5 * i, 5, 1, 1, 1 + i);
-        }
-        return labels;
     }
 
     private static void newObject() {
@@ -201,11 +169,6 @@ public final class PromiseTests {
         due("7: undone", -1, () -> labels.point(0, 5));
     }
 
-    /** The points 0 and 2 have the corner 0 alone, and clash; all are in the upper left corner of the map. */
-    private static CornerLabels crowded() {
-        return map(p(0, 0, 6, 3, 5), p(30, 20, 2, 2, 7), p(1, 0, 6, 3, 5));
-    }
-
     private static void solve() {
         CornerLabels labels = crowded();
         labels.place(2, 0);
@@ -220,14 +183,6 @@ public final class PromiseTests {
         due("8: without points", 0, () -> new CornerLabels().solve());
         labels.undo();
         due("8: undone", 0, () -> labels.point(0, 5));
-    }
-
-    /** Point 1 can stand at the corner 1 alone, where the label of point 0 stands at first. */
-    private static CornerLabels tight() {
-        CornerLabels labels = map(p(10, 20, 4, 2, 1), p(16, 20, 8, 2, 1), p(17, 21, 1, 1, 1),
-                p(17, 19, 1, 1, 1), p(15, 19, 1, 1, 1));
-        labels.place(0, 0);
-        return labels;
     }
 
     private static void push() {
@@ -584,41 +539,5 @@ public final class PromiseTests {
         CornerLabels tight = tight();
         due("26: tight", digestOf(tight, ""), tight::digest);
         due("26: asked again", digestOf(tight, ""), tight::digest);
-    }
-
-    /** The hash as the document tells it, from what the other calls answer. */
-    private static long digestOf(CornerLabels labels, String buffer) {
-        java.util.List<Long> values = new java.util.ArrayList<>();
-        for (int what = 0; what <= 8; what++) {
-            values.add((long) labels.count(what));
-        }
-        int points = labels.count(0);
-        for (int p = 0; p < points; p++) {
-            for (int what = 0; what <= 8; what++) {
-                values.add((long) labels.point(p, what));
-            }
-            values.add((long) labels.best(p));
-            values.add((long) labels.bestWeight(p));
-            values.add((long) labels.ifPushed(p));
-        }
-        for (int p = 0; p < points; p++) {
-            for (int q = p + 1; q < points; q++) {
-                values.add((long) labels.clash(p, 0, q, 0));
-                values.add((long) labels.clash(p, 0, q, 1));
-            }
-        }
-        values.add((long) labels.bestWeight(-1));
-        values.add((long) labels.fullPlans());
-        values.add((long) labels.dearest());
-        values.add(Double.doubleToLongBits(labels.standingShare()));
-        values.add((long) buffer.length());
-        for (int i = 0; i < buffer.length(); i++) {
-            values.add((long) buffer.charAt(i));
-        }
-        long hash = 2833L;
-        for (long value : values) {
-            hash = 31L * hash + value;
-        }
-        return hash;
     }
 }
